@@ -559,8 +559,10 @@ public final class DocumentBytes {
         }
 
         void appendHighestFirst(int bits) {
-            for (int shift = 24; shift >= 0; shift -= 8) {
-                appendNumber(bits >> shift, 1);
+            int at = size;
+            openGap(at, 4);
+            for (int i = 0; i < 4; i++) {
+                put(at + i, bits >> (24 - 8 * i));
             }
         }
 

@@ -136,7 +136,9 @@ final class Promise11AddTest {
         Check.due("depth", x.many(0, 2), 16);
         refused(x, 15, 3, 0, NO_LETTERS, NO_LETTERS, -4);
         refused(x, 15, 4, 0, NO_LETTERS, NO_LETTERS, -4);
-        Check.due("a number there", x.add(0, 15, 16, 3, 0, 0), 16);
+        Check.due("a number there, in a row", x.add(0, 15, 16, 3, 0, 0), 16);
+        Check.dueBytes("every SIZE around it", x, 0, Check.nested(15, Check.element(4, "r", Check.document(
+                Check.whole("0", 3)))));
     }
 
     private static void bytes() {

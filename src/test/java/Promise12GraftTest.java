@@ -103,6 +103,8 @@ final class Promise12GraftTest {
         Check.due("depth", x.many(0, 2), 16);
         Check.due("1 level in 16", graft(x, 0, 15, 1, 1, Check.utf8("e")), -4);
         Check.due("a number in 16", graft(x, 0, 15, 1, 2, Check.utf8("e")), 16);
+        Check.read(x, 2, Check.document(Check.whole("n", 1), Check.element(3, "d", Check.document())));
+        Check.due("a number ahead of a document in 16", graft(x, 0, 15, 2, 1, Check.utf8("g")), 17);
         Check.due("16 levels in 1", graft(x, 1, 0, 0, 0, Check.utf8("f")), -4);
         Check.due("15 levels in 1", graft(x, 1, 0, 0, 1, Check.utf8("f")), 3);
         Check.due("depth", x.many(1, 2), 16);
