@@ -301,10 +301,6 @@ final class Model {
         return what == 0 ? slots[s].value().length : what == 1 ? nodes(s).size() : what == 2 ? slots[s].height() : -1;
     }
 
-    byte[] bytesOf(int s) {
-        return slots[s].value();
-    }
-
     int byteAt(int s, int i) {
         if (s < 0 || s > 7 || i < 0 || i >= slots[s].value().length) {
             return -1;

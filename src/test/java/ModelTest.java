@@ -1,9 +1,12 @@
 import java.util.Random;
+import java.util.TreeMap;
 
 /** Long runs of calls, from fixed seeds, on an object and on the model. */
 final class ModelTest {
-    private static final int RUNS = 600;
-    private static final int CALLS = 512;
+    private static final int RUNS = 900;
+    // A step makes at most some seventy calls; what it leaves of the 512 goes to comparing bytes.
+    private static final int CALLS_OF_STEPS = 430;
+    private static final TreeMap<String, Integer> REFUSALS = new TreeMap<>();
     private static final int[] KINDS = {16, 18, 8, 10, 2, 3, 4, 3, 4};
     private static final int[] EDGES = {-1, 8, Integer.MIN_VALUE, Integer.MAX_VALUE, -2, 9, 21, 2001};
 
@@ -21,11 +24,13 @@ final class ModelTest {
     public static void main(String[] args) {
         for (long seed = 1; seed <= RUNS && Check.wrongSoFar() == 0; seed++) {
             ModelTest test = new ModelTest(seed);
-            while (test.calls < CALLS && Check.wrongSoFar() == 0) {
+            test.start();
+            while (test.calls < CALLS_OF_STEPS && Check.wrongSoFar() == 0) {
                 test.step();
             }
             test.compareSlots();
         }
+        eachRefusalWasMet();
         Check.finish();
     }
 
@@ -34,10 +39,49 @@ final class ModelTest {
         Check.due("seed " + seed + ", call " + calls + ": " + call, got, want);
     }
 
+    private void refusalOf(String method, long answer) {
+        REFUSALS.merge(method + " " + answer, 1, Integer::sum);
+    }
+
+    /** The comparison is worth little where the runs never come to. */
+    private static void eachRefusalWasMet() {
+        for (int fault = 0; fault <= 8; fault++) {
+            Check.due("read " + fault + " was met", REFUSALS.getOrDefault("read " + fault, 0) > 20, true);
+        }
+        for (int answer = -5; answer < 0; answer++) {
+            Check.due("add " + answer + " was met", REFUSALS.getOrDefault("add " + answer, 0) > 20, true);
+            Check.due("graft " + answer + " was met", REFUSALS.getOrDefault("graft " + answer, 0) > 20, true);
+        }
+    }
+
+    /** Some runs begin near the bounds of bytes or of depth. */
+    private void start() {
+        if (seed % 5 == 1) {
+            readInto(0, Check.documentOf(1700 + random.nextInt(301)));
+        }
+        if (seed % 5 == 2) {
+            readInto(1, Check.nested(11 + random.nextInt(6)));
+        }
+        if (seed % 5 == 3) {
+            readInto(0, Check.document(Check.longRow("r", 85 + random.nextInt(20))));
+        }
+    }
+
+    private void readInto(int s, byte[] all) {
+        feed(all);
+        due("read(" + s + ", " + all.length + ")", x.read(s, all.length), model.read(s, all.length));
+    }
+
     private void compareSlots() {
         for (int s = 0; s < 8; s++) {
-            Check.dueBytes("seed " + seed + ", slot " + s, x, s, model.bytesOf(s));
+            due("many(" + s + ", 0)", x.many(s, 0), model.many(s, 0));
         }
+        while (calls < Recorded.MOST_CALLS) {
+            int s = random.nextInt(seed % 3 == 0 ? 8 : 2);
+            int i = random.nextInt(model.many(s, 0));
+            due("byteAt(" + s + ", " + i + ")", x.byteAt(s, i), model.byteAt(s, i));
+        }
+        Check.due("seed " + seed + ": calls", calls, Recorded.MOST_CALLS);
     }
 
     private void step() {
@@ -82,13 +126,25 @@ final class ModelTest {
         return odd(random.nextInt(nodes < 1 ? 2 : nodes + (random.nextInt(8) == 0 ? 1 : 0)));
     }
 
-    /** A node that may hold elements, as a rule. */
+    /** A node that may hold elements, as a rule; the deepest one often in runs that are about depth. */
     private int holder(int s) {
+        if (seed % 5 == 2 && random.nextInt(3) == 0) {
+            return deepest(s);
+        }
         int node = node(s);
         for (int tries = 0; tries < 6 && model.look(s, node, 0) != 3 && model.look(s, node, 0) != 4; tries++) {
             node = node(s);
         }
         return node;
+    }
+
+    private int deepest(int s) {
+        int deepest = 0;
+        for (int node = 0; node < model.many(s, 1); node++) {
+            boolean holds = model.look(s, node, 0) == 3 || model.look(s, node, 0) == 4;
+            deepest = holds && model.look(s, node, 8) > model.look(s, deepest, 8) ? node : deepest;
+        }
+        return deepest;
     }
 
     private void feed(byte[] all) {
@@ -123,7 +179,7 @@ final class ModelTest {
             case 18:
                 return Check.element(kind, name, Check.little(random.nextLong(), 8));
             case 8:
-                return Check.element(kind, name, Check.bytes(random.nextInt(2)));
+                return Check.element(kind, name, Check.bytes(random.nextInt(random.nextInt(40) == 0 ? 256 : 2)));
             case 10:
                 return Check.element(kind, name, Check.bytes());
             case 2:
@@ -155,10 +211,13 @@ final class ModelTest {
             all[at] = (byte) (random.nextBoolean() ? random.nextInt(256) : all[at] + random.nextInt(3) - 1);
         }
         feed(all);
-        int s = slot();
+        // The slot that start() filled is to stay near the bound.
+        int s = seed % 5 == 0 || seed % 5 == 4 ? slot() : 2 + random.nextInt(6);
         int n = odd(all.length);
-        due("read(" + s + ", " + n + ")", x.read(s, n), model.read(s, n));
+        int fault = model.read(s, n);
+        due("read(" + s + ", " + n + ")", x.read(s, n), fault);
         due("place()", x.place(), model.place());
+        refusalOf("read", fault);
     }
 
     private void look() {
@@ -211,7 +270,8 @@ final class ModelTest {
 
     private void drop() {
         int s = slot();
-        int node = node(s);
+        boolean nearABound = seed % 5 > 0 && seed % 5 < 4 && random.nextInt(8) > 0;
+        int node = nearABound ? model.many(s, 1) - 1 : node(s);
         due("drop(" + s + ", " + node + ")", x.drop(s, node) ? 1 : 0, model.drop(s, node) ? 1 : 0);
     }
 
@@ -250,8 +310,9 @@ final class ModelTest {
         byte[] name = newName(s, node);
         feed(name);
         int n = odd(name.length);
-        due("graft(" + s + ", " + node + ", " + t + ", " + from + ", " + n + ")", x.graft(s, node, t, from, n),
-                model.graft(s, node, t, from, n));
+        int answer = model.graft(s, node, t, from, n);
+        due("graft(" + s + ", " + node + ", " + t + ", " + from + ", " + n + ")", x.graft(s, node, t, from, n), answer);
+        refusalOf("graft", answer);
     }
 
     private void add() {
@@ -259,12 +320,14 @@ final class ModelTest {
         int node = holder(s);
         int kind = odd(KINDS[random.nextInt(KINDS.length)]);
         byte[] name = newName(s, node);
-        byte[] text = kind == 2 || random.nextInt(20) == 0 ? letters(random.nextInt(10) == 0 ? 300 : 6) : new byte[0];
+        byte[] text = kind == 2 || random.nextInt(20) == 0 ? letters(random.nextInt(10) == 0 ? 240 : 6) : new byte[0];
         feed(Check.join(name, text));
         long v = value(kind);
         int n = odd(name.length);
         int m = odd(text.length);
+        int answer = model.add(s, node, kind, v, n, m);
         due("add(" + s + ", " + node + ", " + kind + ", " + v + ", " + n + ", " + m + ")",
-                x.add(s, node, kind, v, n, m), model.add(s, node, kind, v, n, m));
+                x.add(s, node, kind, v, n, m), answer);
+        refusalOf("add", answer);
     }
 }
