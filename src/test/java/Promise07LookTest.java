@@ -17,6 +17,7 @@ final class Promise07LookTest extends Check {
         sentence("Promise 7: 7 how many elements it has (0 of others)", () -> each(7, 4, 0, 3, 0, 2, 0, 0, 0, 0, 0));
         sentence("Promise 7: 8 how deep it is (an element that is neither document nor row: as what it stands in)",
                 () -> each(8, 1, 1, 2, 2, 3, 3, 3, 2, 2, 2));
+        sentence("Promise 7: of a document or row with just one element", Promise07LookTest::justOne);
         sentence("Promise 7: of the largest and the smallest", Promise07LookTest::bounds);
         sentence("Promise 7: -1 when there is none such: no slot", Promise07LookTest::noSlot);
         sentence("Promise 7: -1 when there is none such: no node", Promise07LookTest::noNode);
@@ -34,6 +35,19 @@ final class Promise07LookTest extends Check {
         due("nodes", x.many(0, 1), NODES);
         for (int node = 0; node < NODES; node++) {
             due("look(0, " + node + ", " + what + ")", x.look(0, node, what), want[node]);
+        }
+    }
+
+    private static void justOne() {
+        for (int kind = 3; kind <= 4; kind++) {
+            Recorded x = with(document(element(kind, "0", document(element(kind, "0", document(whole("0", 1)))))));
+            for (int node = 0; node < 3; node++) {
+                due("first in node " + node, x.look(0, node, 2), node + 1);
+                due("what it stands in", x.look(0, node + 1, 1), node);
+                due("none behind it", x.look(0, node + 1, 3), -1);
+                due("elements of node " + node, x.look(0, node, 7), 1);
+            }
+            due("none in the number", x.look(0, 3, 2), -1);
         }
     }
 

@@ -304,11 +304,26 @@ final class Promise11AddTest extends Check {
             refused(ALL, 0, 3, 0, join(utf8("z\u00e9"), w), EMPTY, -3);
             refused(ALL, 3, 2, 0, join(w, utf8("z")), utf8("m"), -3);
         }
-        // The name's last letter does not go on in the text.
+        // A name's last letter does not go on in the text, nor in what else is on the tape.
         refused(ALL, 0, 2, 0, bytes(0xC3), bytes(0xA9), -3);
+        refused(ALL, 0, 2, 0, bytes('z', 0xC3), bytes(0xA9), -3);
+        cutOff(2, 0, bytes('z', 0xC3), bytes(0xA9));
+        cutOff(4, 0, bytes('z', 0xF0, 0x9F, 0x98), bytes(0x80));
+    }
+
+    /** The first n and m bytes end within a letter that the tape goes on with. */
+    private static void cutOff(int n, int m, byte[] first, byte[] rest) {
+        Recorded x = with(ALL);
+        x.feedAll(join(first, rest));
+        emptiesTheTape("n " + n + ", m " + m + ", in a letter", x, y -> y.add(0, 0, 2, 0, n, m), -3);
     }
 
     private static void textNoUtf8() {
+        cutOff(0, 1, bytes(0xC3), bytes(0xA9));
+        cutOff(0, 2, bytes('z', 0xC3), bytes(0xA9));
+        cutOff(1, 3, bytes('z', 'z', 0xE2, 0x82), bytes(0xAC));
+        cutOff(1, 19, join(xs(18), bytes(0xE2, 0x82)), bytes(0xAC));
+
         for (byte[] w : NO_UTF8) {
             refused(ALL, 0, 2, 0, utf8("n"), w, -3);
             refused(ALL, 0, 2, 0, EMPTY, join(utf8("z\u00e9"), w), -3);

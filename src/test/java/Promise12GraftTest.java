@@ -154,6 +154,8 @@ final class Promise12GraftTest extends Check {
         }
         staying(0, 0, 1, 1, 1);
         staying(1, 1, 0, 1, 1);
+        // An n that a row does not have, -2 elsewhere, comes behind.
+        staying(0, 6, 0, 99, 1);
     }
 
     private static void noHolder() {
@@ -226,6 +228,9 @@ final class Promise12GraftTest extends Check {
             refused(ALL, 0, ALL, 1, name, -3);
             refused(ALL, 8, ALL, 6, name, -3);
         }
+        Recorded x = with(ALL);
+        x.feedAll(bytes('y', 0xE2, 0x82, 0xAC));
+        emptiesTheTape("n 3, in a letter that the tape goes on with", x, y -> y.graft(0, 0, 0, 1, 3), -3);
     }
 
     private static void tooDeep() {
